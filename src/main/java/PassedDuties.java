@@ -27,20 +27,20 @@ public final class PassedDuties {
     private static final int NAMED_KIND = 1;
     private static final int ALL_ACTS = (1 << ACTS) - 1;
     private static final int ALL_ITEMS = (1 << ITEMS) - 1;
-    private static final long ALL_ROWS = (1L << NET * ITEMS) - 1;
+    private static final long ALL_ROWS = (1L << (NET * ITEMS)) - 1;
 
     private final Page page;
     private final Book book;
-    private final Net net;
+    private final Parts parts;
     private final Ways ways;
     private final Clashes clashes;
 
     public PassedDuties() {
         page = new Page();
         book = new Book();
-        net = new Net();
-        ways = new Ways(net);
-        clashes = new Clashes(net);
+        parts = new Parts();
+        ways = new Ways(parts);
+        clashes = new Clashes(parts);
     }
 
     // ---- texts
@@ -101,70 +101,70 @@ public final class PassedDuties {
         if (!book.has(terms)) {
             return UNKNOWN;
         }
-        int free = net.leastFree();
+        int free = parts.leastFree();
         if (free == NONE) {
             return FULL;
         }
-        net.put(free, terms, book.rows[terms]);
+        parts.put(free, terms, book.rows[terms]);
         return free;
     }
 
     public int give(int part, int terms) {
-        if (!net.has(part) || !book.has(terms)) {
+        if (!parts.has(part) || !book.has(terms)) {
             return UNKNOWN;
         }
-        int before = net.under[part];
-        net.put(part, terms, book.rows[terms]);
+        int before = parts.under[part];
+        parts.put(part, terms, book.rows[terms]);
         return before;
     }
 
     public int leave(int part) {
-        return net.has(part) ? net.remove(part) : UNKNOWN;
+        return parts.has(part) ? parts.remove(part) : UNKNOWN;
     }
 
     public int join(int user, int used, int kind) {
-        if (!net.has(user) || !net.has(used) || user == used) {
+        if (!parts.has(user) || !parts.has(used) || user == used) {
             return UNKNOWN;
         }
         if (kind < NONE || kind > LAST_KIND) {
             return OUTSIDE;
         }
-        int before = net.kindOf(user, used);
-        net.setKind(user, used, kind);
+        int before = parts.kindOf(user, used);
+        parts.setKind(user, used, kind);
         return before;
     }
 
     public int kind(int user, int used) {
-        return net.has(user) && net.has(used) ? net.kindOf(user, used) : UNKNOWN;
+        return parts.has(user) && parts.has(used) ? parts.kindOf(user, used) : UNKNOWN;
     }
 
     // ---- what comes to each
 
     public int of(int part, int what) {
-        if (!net.has(part)) {
+        if (!parts.has(part)) {
             return UNKNOWN;
         }
         switch (what) {
-            case 0: return net.under[part];
-            case 1: return Reaches.duties(net.come[part]);
-            case 2: return Reaches.bars(net.come[part]);
-            case 3: return Reaches.meeting(net.come[part]);
-            case 4: return net.namesOf(part);
-            case 5: return net.joinsFrom(part);
-            case 6: return net.joinsTo(part);
+            case 0: return parts.under[part];
+            case 1: return Reaches.duties(parts.come[part]);
+            case 2: return Reaches.bars(parts.come[part]);
+            case 3: return Reaches.meeting(parts.come[part]);
+            case 4: return parts.namesOf(part);
+            case 5: return parts.joinsFrom(part);
+            case 6: return parts.joinsTo(part);
             default: return OUTSIDE;
         }
     }
 
     public int held(int part, int item) {
-        if (!net.has(part)) {
+        if (!parts.has(part)) {
             return UNKNOWN;
         }
-        return isItem(item) ? net.reachHeld(part, item) : OUTSIDE;
+        return isItem(item) ? parts.reachHeld(part, item) : OUTSIDE;
     }
 
     public int way(int part, int item, int place) {
-        if (!net.has(part)) {
+        if (!parts.has(part)) {
             return UNKNOWN;
         }
         return isItem(item) ? ways.partAt(part, item, place) : OUTSIDE;
@@ -178,10 +178,10 @@ public final class PassedDuties {
     }
 
     public int cause(int part, int act) {
-        if (!net.has(part)) {
+        if (!parts.has(part)) {
             return UNKNOWN;
         }
-        return act >= 0 && act < ACTS ? clashes.fewestFor(part, act) : OUTSIDE;
+        return act >= 0 && act < ACTS ? clashes.fewestFor(part * ACTS + act) : OUTSIDE;
     }
 
     public int cure() {
@@ -192,12 +192,12 @@ public final class PassedDuties {
         switch (what) {
             case 0: return page.length;
             case 1: return book.size;
-            case 2: return Integer.bitCount(net.there);
-            case 3: return net.there;
-            case 4: return net.joins();
+            case 2: return Integer.bitCount(parts.there);
+            case 3: return parts.there;
+            case 4: return parts.joins();
             case 5: return Long.bitCount(clashes.now());
             case 6: return clashes.partsNow();
-            case 7: return net.timesLeft;
+            case 7: return parts.timesLeft;
             default: return OUTSIDE;
         }
     }
@@ -205,7 +205,7 @@ public final class PassedDuties {
     public long digest() {
         long h = withTerms(1697);
         for (int part = 0; part < MOST_PARTS; part++) {
-            if (net.has(part)) {
+            if (parts.has(part)) {
                 h = withPart(h, part);
             }
         }
@@ -239,7 +239,7 @@ public final class PassedDuties {
             h = mix(h, held(part, item));
         }
         for (int used = 0; used < MOST_PARTS; used++) {
-            if (net.has(used)) {
+            if (parts.has(used)) {
                 h = mix(h, kind(part, used));
             }
         }
@@ -248,11 +248,11 @@ public final class PassedDuties {
 
     private long withClashes(long start) {
         long h = start;
-        int most = count(5);
-        for (int place = 0; place < most; place++) {
-            int found = clash(place);
-            h = mix(h, found);
-            h = mix(h, cause(found / ACTS, found % ACTS));
+        for (int found = 0; found < MOST_PARTS * ACTS; found++) {
+            if (isSet(clashes.now(), found)) {
+                h = mix(h, found);
+                h = mix(h, clashes.fewestFor(found));
+            }
         }
         return h;
     }
@@ -265,19 +265,23 @@ public final class PassedDuties {
         return item >= 0 && item < ITEMS;
     }
 
+    private static boolean isSet(long bits, int bit) {
+        return ((bits >> bit) & 1) != 0;
+    }
+
     /** What can be said of REACHES that lie in the rows of one long. */
     private static final class Reaches {
         static long rowsFor(int item, int reach) {
             long rows = 0;
             for (int row = 0; row < reach; row++) {
-                rows |= 1L << row * ITEMS + item;
+                rows |= 1L << (row * ITEMS + item);
             }
             return rows;
         }
 
         static int greatest(long rows, int item) {
             for (int reach = NET; reach >= NEAR; reach--) {
-                if ((rows >> (reach - 1) * ITEMS + item & 1) != 0) {
+                if (isSet(rows, (reach - 1) * ITEMS + item)) {
                     return reach;
                 }
             }
@@ -299,17 +303,18 @@ public final class PassedDuties {
         }
 
         static int meeting(long rows) {
-            return duties(rows) & bars(rows);
+            int items = itemsIn(rows);
+            return items & (items >> ACTS);
         }
 
         /** The rows of the REACHES that are greater than the KIND. */
-        static long through(int kind) {
-            return kind == NONE ? 0 : ALL_ROWS & -1L << kind * ITEMS;
+        static long letThrough(int kind) {
+            return kind == NONE ? 0 : ALL_ROWS & (-1L << (kind * ITEMS));
         }
 
-        /** A JOIN can let through a higher row without the lower ones, so all rows are looked at. */
+        /** All rows are looked at, since a JOIN can let a higher one through without the lower. */
         private static int itemsIn(long rows) {
-            return (int) (rows | rows >> ITEMS | rows >> 2 * ITEMS) & ALL_ITEMS;
+            return (int) (rows | (rows >> ITEMS) | (rows >> (2 * ITEMS))) & ALL_ITEMS;
         }
     }
 
@@ -340,7 +345,7 @@ public final class PassedDuties {
                 int item = itemOf(codes[place]);
                 boolean fits = item == NONE
                         ? signMayFollow && reachOf(codes[place]) != NEAR
-                        : (seen >> item & 1) == 0;
+                        : !isSet(seen, item);
                 if (!fits) {
                     return place;
                 }
@@ -410,7 +415,7 @@ public final class PassedDuties {
     }
 
     /** The PARTS, their JOINS, and what comes to each PART in the end. */
-    private static final class Net {
+    private static final class Parts {
         private final int[] under = new int[MOST_PARTS];
         private final long[] own = new long[MOST_PARTS];
         private final int[] kinds = new int[MOST_PARTS * MOST_PARTS];
@@ -420,12 +425,12 @@ public final class PassedDuties {
         private int timesLeft = 0;
         private int changes = 0;
 
-        Net() {
+        Parts() {
             Arrays.fill(kinds, NONE);
         }
 
         boolean has(int part) {
-            return part >= 0 && part < MOST_PARTS && (there >> part & 1) != 0;
+            return part >= 0 && part < MOST_PARTS && isSet(there, part);
         }
 
         int leastFree() {
@@ -502,7 +507,7 @@ public final class PassedDuties {
             int names = 1 << part;
             for (int round = 0; round < MOST_PARTS; round++) {
                 for (int user = 0; user < MOST_PARTS; user++) {
-                    names |= (names >> user & 1) != 0 ? namedBy(user) : 0;
+                    names |= isSet(names, user) ? namedBy(user) : 0;
                 }
             }
             return names & ~(1 << part);
@@ -518,37 +523,39 @@ public final class PassedDuties {
         }
 
         /**
-         * What comes to each PART if those of the set are there alone. The rows that a PART gets
-         * too few (a higher one without the lower ones) change nothing: the highest one counts.
+         * What comes to each PART if those of the set are there alone. A PART may get the higher
+         * rows of an ITEM without the lower ones; the highest one tells its REACH, and where a
+         * lower one goes through, it does so too. No way is longer than there are PARTS, so as
+         * many rounds are enough.
          */
         void spread(int set, long[] rows) {
             for (int part = 0; part < MOST_PARTS; part++) {
-                rows[part] = (set >> part & 1) != 0 ? own[part] : 0;
+                rows[part] = isSet(set, part) ? own[part] : 0;
             }
             boolean more = true;
             for (int round = 0; more && round < MOST_PARTS; round++) {
                 more = false;
                 for (int user = 0; user < MOST_PARTS; user++) {
-                    long before = rows[user];
-                    if ((set >> user & 1) != 0) {
-                        rows[user] = withUsed(user, rows);
+                    if (isSet(set, user) && getsMore(user, rows)) {
+                        more = true;
                     }
-                    more |= rows[user] != before;
                 }
             }
         }
 
-        private long withUsed(int user, long[] rows) {
-            long sum = rows[user];
+        private boolean getsMore(int user, long[] rows) {
+            long before = rows[user];
+            long sum = before;
             for (int used = 0; used < MOST_PARTS; used++) {
                 sum |= rows[used] & through[user * MOST_PARTS + used];
             }
-            return sum;
+            rows[user] = sum;
+            return sum != before;
         }
 
         private void setJoin(int user, int used, int kind) {
             kinds[user * MOST_PARTS + used] = kind;
-            through[user * MOST_PARTS + used] = Reaches.through(kind);
+            through[user * MOST_PARTS + used] = Reaches.letThrough(kind);
         }
 
         private void settle() {
@@ -559,15 +566,15 @@ public final class PassedDuties {
 
     /** By which WAY an ITEM comes to a PART. */
     private static final class Ways {
-        private final Net net;
+        private final Parts parts;
         private final int[] joinsLeft = new int[MOST_PARTS];
 
-        Ways(Net net) {
-            this.net = net;
+        Ways(Parts parts) {
+            this.parts = parts;
         }
 
         int partAt(int part, int item, int place) {
-            int reach = net.reachHeld(part, item);
+            int reach = parts.reachHeld(part, item);
             if (reach == 0 || place < 0) {
                 return NONE;
             }
@@ -582,11 +589,12 @@ public final class PassedDuties {
             return at;
         }
 
-        /** By how few JOINS each PART gets the ITEM from one that has it itself; NONE: it doesn't. */
+        /** By how few JOINS the ITEM comes to each PART, of those that let it through (or NONE). */
         private void measure(int item, int reach) {
             for (int part = 0; part < MOST_PARTS; part++) {
-                boolean source = net.has(part) && Reaches.greatest(net.own[part], item) == reach;
-                joinsLeft[part] = source ? 0 : NONE;
+                boolean hasItself = parts.has(part)
+                        && Reaches.greatest(parts.own[part], item) == reach;
+                joinsLeft[part] = hasItself ? 0 : NONE;
             }
             for (int joins = 1; joins < MOST_PARTS; joins++) {
                 for (int part = 0; part < MOST_PARTS; part++) {
@@ -597,10 +605,10 @@ public final class PassedDuties {
             }
         }
 
-        /** The first PART that a PART can have it from, of those that get it by so many JOINS. */
+        /** The first PART that a PART can get it from, of those to which it comes by so many. */
         private int nearer(int user, int joins, int reach) {
             for (int used = 0; used < MOST_PARTS; used++) {
-                if (joinsLeft[used] == joins && net.lets(user, used, reach)) {
+                if (joinsLeft[used] == joins && parts.lets(user, used, reach)) {
                     return used;
                 }
             }
@@ -614,32 +622,32 @@ public final class PassedDuties {
      * are kept until PARTS or JOINS change, since digest() asks for all of them many times.
      */
     private static final class Clashes {
-        private final Net net;
+        private final Parts parts;
         private final long[] bySet = new long[SETS];
         private final long[] rows = new long[MOST_PARTS];
         private int keptFor = NONE;
 
-        Clashes(Net net) {
-            this.net = net;
+        Clashes(Parts parts) {
+            this.parts = parts;
         }
 
         long now() {
-            return meetings(net.come);
+            return meetings(parts.come);
         }
 
         int partsNow() {
-            int parts = 0;
+            int having = 0;
             for (int part = 0; part < MOST_PARTS; part++) {
-                parts += Reaches.meeting(net.come[part]) != 0 ? 1 : 0;
+                having += Reaches.meeting(parts.come[part]) != 0 ? 1 : 0;
             }
-            return parts;
+            return having;
         }
 
         int at(int place) {
             long all = now();
             int ahead = 0;
             for (int found = 0; found < MOST_PARTS * ACTS; found++) {
-                if ((all >> found & 1) != 0) {
+                if (isSet(all, found)) {
                     if (ahead == place) {
                         return found;
                     }
@@ -649,15 +657,14 @@ public final class PassedDuties {
             return NONE;
         }
 
-        int fewestFor(int part, int act) {
-            int found = part * ACTS + act;
-            if ((now() >> found & 1) == 0) {
+        int fewestFor(int found) {
+            if (!isSet(now(), found)) {
                 return NONE;
             }
             keepAll();
-            int fewest = net.there;
+            int fewest = parts.there;
             for (int set = 0; set < SETS; set++) {
-                if (isFewer(set, fewest) && (bySet[set] >> found & 1) != 0) {
+                if (isSet(bySet[set], found) && isFewer(set, fewest)) {
                     fewest = set;
                 }
             }
@@ -669,9 +676,9 @@ public final class PassedDuties {
                 return 0;
             }
             keepAll();
-            int fewest = net.there;
+            int fewest = parts.there;
             for (int set = 0; set < SETS; set++) {
-                if (isFewer(set, fewest) && bySet[net.there & ~set] == 0) {
+                if (bySet[parts.there & ~set] == 0 && isFewer(set, fewest)) {
                     fewest = set;
                 }
             }
@@ -680,26 +687,26 @@ public final class PassedDuties {
 
         /** Sets are looked at by their sums, so that of like ones the least comes first. */
         private boolean isFewer(int set, int fewest) {
-            return (set & ~net.there) == 0 && Integer.bitCount(set) < Integer.bitCount(fewest);
+            return (set & ~parts.there) == 0 && Integer.bitCount(set) < Integer.bitCount(fewest);
         }
 
         private void keepAll() {
-            if (keptFor == net.changes) {
+            if (keptFor == parts.changes) {
                 return;
             }
             for (int set = 0; set < SETS; set++) {
-                if ((set & ~net.there) == 0) {
-                    net.spread(set, rows);
+                if ((set & ~parts.there) == 0) {
+                    parts.spread(set, rows);
                     bySet[set] = meetings(rows);
                 }
             }
-            keptFor = net.changes;
+            keptFor = parts.changes;
         }
 
         private static long meetings(long[] rows) {
             long all = 0;
             for (int part = 0; part < MOST_PARTS; part++) {
-                all |= (long) Reaches.meeting(rows[part]) << part * ACTS;
+                all |= (long) Reaches.meeting(rows[part]) << (part * ACTS);
             }
             return all;
         }

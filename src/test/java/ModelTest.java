@@ -1,0 +1,128 @@
+import java.util.Random;
+
+/** Long runs of calls, drawn from a fixed seed, on the program and on the model. */
+public final class ModelTest {
+    private static final int RUNS = 300;
+    private static final int CALLS = 511;
+    private static final int[] WILD = {
+        Integer.MIN_VALUE, Integer.MAX_VALUE, -1000, -2, -1, 0, 7, 8, 11, 12, 32, 63, 64, 255, 256
+    };
+    private static final Check check = new Check();
+
+    private final Random random;
+    private final PassedDuties real = new PassedDuties();
+    private final Model model = new Model();
+    private final int signs;
+    private final int kinds;
+
+    private ModelTest(int run) {
+        random = new Random(1697L * run);
+        signs = random.nextInt(4);
+        kinds = random.nextInt(4);
+    }
+
+    public static void main(String[] args) {
+        for (int run = 0; run < RUNS && check.clean(); run++) {
+            new ModelTest(run).run(run);
+        }
+        check.end();
+    }
+
+    private void run(int run) {
+        for (int made = 0; made < CALLS && check.clean(); made++) {
+            step("run " + run + ", call " + made + ": ");
+        }
+        check.due("run " + run + ": digest", real.digest(), model.digest());
+    }
+
+    private void step(String where) {
+        int draw = random.nextInt(100);
+        if (draw < 42) {
+            write(where);
+        } else if (draw < 70) {
+            change(where, draw);
+        } else {
+            ask(where, draw);
+        }
+    }
+
+    private void write(String where) {
+        int draw = random.nextInt(20);
+        if (draw < 13) {
+            int code = code();
+            check.due(where + "letter " + code, real.letter(code), model.letter(code));
+        } else if (draw == 13 && random.nextInt(3) == 0) {
+            check.due(where + "blank", real.blank(), model.blank());
+        } else if (draw < 17) {
+            check.due(where + "fault", real.fault(), model.fault());
+        } else if (random.nextInt(3) == 0) {
+            boolean refused = model.fault() < model.count(0);
+            check.due(where + "terms", real.terms(), model.terms());
+            if (refused) {
+                check.due(where + "blank", real.blank(), model.blank());
+            }
+        }
+    }
+
+    private int code() {
+        int draw = random.nextInt(60);
+        if (draw == 0) {
+            return wild();
+        }
+        if (draw == 1) {
+            return 32 + random.nextInt(95);
+        }
+        if (draw < 6 + 6 * signs) {
+            return "+*".charAt(random.nextInt(2));
+        }
+        return "pqrstuPQRSTU".charAt(random.nextInt(12));
+    }
+
+    private void change(String where, int draw) {
+        int a = number();
+        int b = number();
+        if (draw < 50) {
+            check.due(where + "part " + a, real.part(a), model.part(a));
+        } else if (draw < 53) {
+            check.due(where + "give " + a + " " + b, real.give(a, b), model.give(a, b));
+        } else if (draw == 53) {
+            check.due(where + "leave " + a, real.leave(a), model.leave(a));
+        } else {
+            int kind = random.nextInt(15) == 0 ? wild() : random.nextInt(kinds + 2) - 1;
+            String call = where + "join " + a + " " + b + " " + kind;
+            check.due(call, real.join(a, b, kind), model.join(a, b, kind));
+        }
+    }
+
+    private void ask(String where, int draw) {
+        int a = number();
+        int b = number();
+        int c = random.nextInt(13) == 0 ? wild() : random.nextInt(13);
+        String call = where + draw + " " + a + " " + b + " " + c;
+        switch (draw % 15) {
+            case 0: check.due(call, real.reach(a, c), model.reach(a, c)); break;
+            case 1: check.due(call, real.two(a, b, c % 4), model.two(a, b, c % 4)); break;
+            case 2: check.due(call, real.kind(a, b), model.kind(a, b)); break;
+            case 3: case 4: check.due(call, real.of(a, b), model.of(a, b)); break;
+            case 5: case 6: check.due(call, real.held(a, c), model.held(a, c)); break;
+            case 7: case 8: case 9: check.due(call, real.way(a, c, b), model.way(a, c, b)); break;
+            case 10: check.due(call, real.clash(c), model.clash(c)); break;
+            case 11: case 12: check.due(call, real.cause(a, b), model.cause(a, b)); break;
+            case 13: check.due(call, real.cure(), model.cure()); break;
+            default: check.due(call, real.count(b), model.count(b)); break;
+        }
+        if (random.nextInt(40) == 0) {
+            check.due(where + "digest", real.digest(), model.digest());
+        }
+    }
+
+    /** Of a part, terms, an act or a place: mostly one that is there. */
+    private int number() {
+        int draw = random.nextInt(40);
+        return draw == 0 ? wild() : draw < 4 ? random.nextInt(9) : random.nextInt(Math.max(1, model.count(1)));
+    }
+
+    private int wild() {
+        return WILD[random.nextInt(WILD.length)];
+    }
+}
