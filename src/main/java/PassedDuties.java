@@ -248,8 +248,9 @@ public final class PassedDuties {
 
     private long withClashes(long start) {
         long h = start;
+        long all = clashes.now();
         for (int found = 0; found < MOST_PARTS * ACTS; found++) {
-            if (isSet(clashes.now(), found)) {
+            if (isSet(all, found)) {
                 h = mix(h, found);
                 h = mix(h, clashes.fewestFor(found));
             }

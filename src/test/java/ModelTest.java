@@ -14,11 +14,15 @@ public final class ModelTest {
     private final Model model = new Model();
     private final int signs;
     private final int kinds;
+    private final int many;
+    private final int sparse;
 
     private ModelTest(int run) {
         random = new Random(1697L * run);
         signs = random.nextInt(4);
         kinds = random.nextInt(4);
+        many = 1 + random.nextInt(random.nextInt(3) == 0 ? 12 : 3);
+        sparse = random.nextInt(8);
     }
 
     public static void main(String[] args) {
@@ -29,17 +33,52 @@ public final class ModelTest {
     }
 
     private void run(int run) {
+        int texts = random.nextInt(9);
+        for (int text = 0; text < texts; text++) {
+            readGoodText("run " + run + ", text " + text + ": ");
+        }
         for (int made = 0; made < CALLS && check.clean(); made++) {
             step("run " + run + ", call " + made + ": ");
         }
         check.due("run " + run + ": digest", real.digest(), model.digest());
+        allWays("run " + run + ": ");
+    }
+
+    private void allWays(String where) {
+        for (int part = 0; part < 8; part++) {
+            for (int item = 0; item < 12; item++) {
+                for (int place = 0; place < 4; place++) {
+                    String call = where + "way " + part + " " + item + " " + place;
+                    check.due(call, real.way(part, item, place), model.way(part, item, place));
+                }
+            }
+        }
+    }
+
+    private void readGoodText(String where) {
+        String letters = "pqrPQRstuSTU".substring(0, 4 + random.nextInt(9));
+        int items = 1 + random.nextInt(many);
+        for (int item = 0; item < items && !letters.isEmpty(); item++) {
+            int place = random.nextInt(letters.length());
+            both(where, letters.charAt(place));
+            letters = letters.substring(0, place) + letters.substring(place + 1);
+            if (random.nextInt(4) < signs) {
+                both(where, "+**".charAt(random.nextInt(3)));
+            }
+        }
+        check.due(where + "terms", real.terms(), model.terms());
+        check.due(where + "blank", real.blank(), model.blank());
+    }
+
+    private void both(String where, int code) {
+        check.due(where + "letter " + code, real.letter(code), model.letter(code));
     }
 
     private void step(String where) {
         int draw = random.nextInt(100);
-        if (draw < 42) {
+        if (draw < 25) {
             write(where);
-        } else if (draw < 70) {
+        } else if (draw < 55) {
             change(where, draw);
         } else {
             ask(where, draw);
@@ -49,18 +88,14 @@ public final class ModelTest {
     private void write(String where) {
         int draw = random.nextInt(20);
         if (draw < 13) {
-            int code = code();
-            check.due(where + "letter " + code, real.letter(code), model.letter(code));
+            both(where, code());
         } else if (draw == 13 && random.nextInt(3) == 0) {
             check.due(where + "blank", real.blank(), model.blank());
         } else if (draw < 17) {
             check.due(where + "fault", real.fault(), model.fault());
         } else if (random.nextInt(3) == 0) {
-            boolean refused = model.fault() < model.count(0);
             check.due(where + "terms", real.terms(), model.terms());
-            if (refused) {
-                check.due(where + "blank", real.blank(), model.blank());
-            }
+            check.due(where + "blank", real.blank(), model.blank());
         }
     }
 
@@ -81,14 +116,17 @@ public final class ModelTest {
     private void change(String where, int draw) {
         int a = number();
         int b = number();
-        if (draw < 50) {
+        if (draw < 31) {
             check.due(where + "part " + a, real.part(a), model.part(a));
-        } else if (draw < 53) {
+        } else if (draw < 34) {
             check.due(where + "give " + a + " " + b, real.give(a, b), model.give(a, b));
-        } else if (draw == 53) {
+        } else if (draw == 34) {
             check.due(where + "leave " + a, real.leave(a), model.leave(a));
         } else {
             int kind = random.nextInt(15) == 0 ? wild() : random.nextInt(kinds + 2) - 1;
+            if (random.nextInt(8) < sparse) {
+                kind = -1;
+            }
             String call = where + "join " + a + " " + b + " " + kind;
             check.due(call, real.join(a, b, kind), model.join(a, b, kind));
         }
@@ -119,7 +157,11 @@ public final class ModelTest {
     /** Of a part, terms, an act or a place: mostly one that is there. */
     private int number() {
         int draw = random.nextInt(40);
-        return draw == 0 ? wild() : draw < 4 ? random.nextInt(9) : random.nextInt(Math.max(1, model.count(1)));
+        if (draw == 0) {
+            return wild();
+        }
+        int there = draw < 20 ? model.count(1) : model.count(2);
+        return random.nextInt(there + 1);
     }
 
     private int wild() {
