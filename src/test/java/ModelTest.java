@@ -2,8 +2,9 @@ import java.util.Random;
 
 /** Long runs of calls, drawn from a fixed seed, on the program and on the model. */
 public final class ModelTest {
-    private static final int RUNS = 300;
-    private static final int CALLS = 511;
+    private static final int RUNS = 400;
+    private static final int MOST_CALLS = 512;
+    private static final int CALLS_OF_A_STEP = 2;
     private static final int[] WILD = {
         Integer.MIN_VALUE, Integer.MAX_VALUE, -1000, -2, -1, 0, 7, 8, 11, 12, 32, 63, 64, 255, 256
     };
@@ -16,6 +17,7 @@ public final class ModelTest {
     private final int kinds;
     private final int many;
     private final int sparse;
+    private int made = 0;
 
     private ModelTest(int run) {
         random = new Random(1697L * run);
@@ -37,19 +39,28 @@ public final class ModelTest {
         for (int text = 0; text < texts; text++) {
             readGoodText("run " + run + ", text " + text + ": ");
         }
-        for (int made = 0; made < CALLS && check.clean(); made++) {
+        int asksOfWays = run % 3 == 0 ? 8 * 12 * 2 : 0;
+        while (made + CALLS_OF_A_STEP + asksOfWays < MOST_CALLS && check.clean()) {
             step("run " + run + ", call " + made + ": ");
         }
-        check.due("run " + run + ": digest", real.digest(), model.digest());
-        allWays("run " + run + ": ");
+        due("run " + run + ": digest", real.digest(), model.digest());
+        if (asksOfWays > 0) {
+            allWays("run " + run + ": ");
+        }
+        check.holds("run " + run + ": no more calls than are promised", made <= MOST_CALLS);
+    }
+
+    private void due(String call, long got, long want) {
+        made++;
+        check.due(call, got, want);
     }
 
     private void allWays(String where) {
         for (int part = 0; part < 8; part++) {
             for (int item = 0; item < 12; item++) {
-                for (int place = 0; place < 4; place++) {
+                for (int place = 1; place < 3; place++) {
                     String call = where + "way " + part + " " + item + " " + place;
-                    check.due(call, real.way(part, item, place), model.way(part, item, place));
+                    due(call, real.way(part, item, place), model.way(part, item, place));
                 }
             }
         }
@@ -66,12 +77,12 @@ public final class ModelTest {
                 both(where, "+**".charAt(random.nextInt(3)));
             }
         }
-        check.due(where + "terms", real.terms(), model.terms());
-        check.due(where + "blank", real.blank(), model.blank());
+        due(where + "terms", real.terms(), model.terms());
+        due(where + "blank", real.blank(), model.blank());
     }
 
     private void both(String where, int code) {
-        check.due(where + "letter " + code, real.letter(code), model.letter(code));
+        due(where + "letter " + code, real.letter(code), model.letter(code));
     }
 
     private void step(String where) {
@@ -90,12 +101,12 @@ public final class ModelTest {
         if (draw < 13) {
             both(where, code());
         } else if (draw == 13 && random.nextInt(3) == 0) {
-            check.due(where + "blank", real.blank(), model.blank());
+            due(where + "blank", real.blank(), model.blank());
         } else if (draw < 17) {
-            check.due(where + "fault", real.fault(), model.fault());
+            due(where + "fault", real.fault(), model.fault());
         } else if (random.nextInt(3) == 0) {
-            check.due(where + "terms", real.terms(), model.terms());
-            check.due(where + "blank", real.blank(), model.blank());
+            due(where + "terms", real.terms(), model.terms());
+            due(where + "blank", real.blank(), model.blank());
         }
     }
 
@@ -117,18 +128,18 @@ public final class ModelTest {
         int a = number();
         int b = number();
         if (draw < 31) {
-            check.due(where + "part " + a, real.part(a), model.part(a));
+            due(where + "part " + a, real.part(a), model.part(a));
         } else if (draw < 34) {
-            check.due(where + "give " + a + " " + b, real.give(a, b), model.give(a, b));
+            due(where + "give " + a + " " + b, real.give(a, b), model.give(a, b));
         } else if (draw == 34) {
-            check.due(where + "leave " + a, real.leave(a), model.leave(a));
+            due(where + "leave " + a, real.leave(a), model.leave(a));
         } else {
             int kind = random.nextInt(15) == 0 ? wild() : random.nextInt(kinds + 2) - 1;
             if (random.nextInt(8) < sparse) {
                 kind = -1;
             }
             String call = where + "join " + a + " " + b + " " + kind;
-            check.due(call, real.join(a, b, kind), model.join(a, b, kind));
+            due(call, real.join(a, b, kind), model.join(a, b, kind));
         }
     }
 
@@ -138,19 +149,19 @@ public final class ModelTest {
         int c = random.nextInt(13) == 0 ? wild() : random.nextInt(13);
         String call = where + draw + " " + a + " " + b + " " + c;
         switch (draw % 15) {
-            case 0: check.due(call, real.reach(a, c), model.reach(a, c)); break;
-            case 1: check.due(call, real.two(a, b, c % 4), model.two(a, b, c % 4)); break;
-            case 2: check.due(call, real.kind(a, b), model.kind(a, b)); break;
-            case 3: case 4: check.due(call, real.of(a, b), model.of(a, b)); break;
-            case 5: case 6: check.due(call, real.held(a, c), model.held(a, c)); break;
-            case 7: case 8: case 9: check.due(call, real.way(a, c, b), model.way(a, c, b)); break;
-            case 10: check.due(call, real.clash(c), model.clash(c)); break;
-            case 11: case 12: check.due(call, real.cause(a, b), model.cause(a, b)); break;
-            case 13: check.due(call, real.cure(), model.cure()); break;
-            default: check.due(call, real.count(b), model.count(b)); break;
+            case 0: due(call, real.reach(a, c), model.reach(a, c)); break;
+            case 1: due(call, real.two(a, b, c % 4), model.two(a, b, c % 4)); break;
+            case 2: due(call, real.kind(a, b), model.kind(a, b)); break;
+            case 3: case 4: due(call, real.of(a, b), model.of(a, b)); break;
+            case 5: case 6: due(call, real.held(a, c), model.held(a, c)); break;
+            case 7: case 8: case 9: due(call, real.way(a, c, b), model.way(a, c, b)); break;
+            case 10: due(call, real.clash(c), model.clash(c)); break;
+            case 11: case 12: due(call, real.cause(a, b), model.cause(a, b)); break;
+            case 13: due(call, real.cure(), model.cure()); break;
+            default: due(call, real.count(b), model.count(b)); break;
         }
         if (random.nextInt(40) == 0) {
-            check.due(where + "digest", real.digest(), model.digest());
+            due(where + "digest", real.digest(), model.digest());
         }
     }
 
